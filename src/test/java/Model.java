@@ -1,7 +1,6 @@
 import java.util.ArrayList;
 import java.util.Comparator;
 import java.util.HashMap;
-import java.util.HashSet;
 import java.util.List;
 import java.util.Map;
 import java.util.Set;
@@ -1063,10 +1062,5 @@ final class Model {
 
     int status(int what) {
         return in(what, 0, 5) ? refused[what] : NONE;
-    }
-
-    /** So that a test can see which words the model holds as its own. */
-    static Set<String> ownWords() {
-        return new HashSet<>(OWN);
     }
 }

@@ -14,6 +14,7 @@ public final class PromiseTest {
         names();
         oneCanal();
         turnsAndLoads();
+        farAhead();
         waterGoesDown();
         alarmsByCause();
         alarmsTold();
@@ -206,6 +207,27 @@ public final class PromiseTest {
         Check.due("load(0, 0) with another leak", k.load(0, 0), 52 + 10 * x[1] + 20 * y[3] + 40 * z[3]);
     }
 
+    /** As far ahead as can be: 8 DELAYS of 9 behind 200 STEPS. */
+    private static void farAhead() {
+        StringBuilder text = new StringBuilder("canal gives 5;");
+        for (char name = 'a'; name <= 'h'; name++) {
+            text.append(pool("" + name, 9, 9, 9, 9, 9, 0, 99, 99, 0));
+        }
+        text.append("outlet x at h takes 7;order x from 272 for 1;");
+        CanalKeeper k = Check.told(text.toString());
+        Check.due("load(0, 200)", k.load(0, 200), 7);
+        Check.due("opening(0, 199)", k.opening(0, 199), 0);
+        Check.due("opening(0, 200)", k.opening(0, 200), 7);
+        Check.due("outlet(0, 5)", k.outlet(0, 5), 72);
+        Check.due("gate(0, 3)", k.gate(0, 3), 0);
+        k.steps(100);
+        k.steps(100);
+        Check.due("gate(0, 0)", k.gate(0, 0), 7);
+        Check.due("gate(0, 3)", k.gate(0, 3), 7);
+        k.steps(1);
+        Check.due("gate(0, 0)", k.gate(0, 0), 0);
+    }
+
     /** Two OUTLETS at one POOL by numbers, GATES by numbers with DELAY 0, water over two CRESTS. */
     private static void waterGoesDown() {
         CanalKeeper k = Check.told("canal gives 9;" + pool("a", 12, 0, 20, 20, 0, 0, 30, 30, 20)
@@ -259,6 +281,8 @@ public final class PromiseTest {
         firstAlarm("canal gives 0;" + pool("a", 5, 10, 20, 30, 0, 1, 9, 1, 1), 0, 1);
         firstAlarm("canal gives 9;" + pool("a", 5, 10, 20, 30, 0, 1, 0, 1, 0), 0, 2);
         firstAlarm("canal gives 9;" + pool("a", 5, 10, 20, 30, 0, 1, 9, 1, 0), 0, 3);
+        // WANTED is 3, and so is MOST: that is no 2.
+        firstAlarm("canal gives 9;" + pool("a", 5, 10, 20, 30, 0, 1, 3, 9, 0), 0, 4);
         firstAlarm("canal gives 9;" + pool("a", 10, 10, 10, 30, 0, 1, 9, 9, 0), 0, 4);
         firstAlarm("canal gives 9;" + pool("a", 10, 10, 10, 30, 0, 0, 9, 9, 0)
             + "outlet x at a takes 1;order x from 0 for 1;", 0, 5);
@@ -311,7 +335,9 @@ public final class PromiseTest {
         Check.due("alarms(0, 0)", k.alarms(0, 0), -1);
         Check.due("alarms(0, 9)", k.alarms(0, 9), -1);
         k.undo();
-        Check.due("alarm(0, 0) undone", k.alarm(0, 0), 0);
+        for (int i = 0; i < 40; i++) {
+            Check.due("alarm(" + i + ", 0) undone", k.alarm(i, 0), 2 * i);
+        }
         k.undo();
         Check.due("has(6) undone", k.has(6), 0);
     }
@@ -453,6 +479,11 @@ public final class PromiseTest {
         k = Check.told("canal gives 5;" + pool("a", 0, 0, 9999, 9999, 0, 0, 999, 999, 999)
             + "outlet p at a takes 99;outlet q at a takes 99;order p from 1 for 5;order q from 1 for 5;");
         Check.due("least of two", k.least(2), 198);
+        StringBuilder text = new StringBuilder("canal gives 5;").append(pool("a", 0, 0, 9999, 9999, 0, 9, 999, 999, 999));
+        for (char name = 'p'; name < 'z'; name++) {
+            text.append("outlet ").append(name).append(" at a takes 99;order ").append(name).append(" from 1 for 1;");
+        }
+        Check.due("least of ten and a leak", Check.told(text.toString()).least(2), 999);
     }
 
     private static void bestGain() {
@@ -479,6 +510,14 @@ public final class PromiseTest {
         // Each POOL counts.
         k = Check.told("canal gives 0;" + pool("a", 0, 1, 2, 99, 0, 0, 0, 1, 0) + pool("b", 9, 1, 2, 99, 0, 0, 0, 1, 0));
         Check.due("gain(7, 1) of two", k.gain(7, 1), 14);
+        // b draws 992 / GAIN from a, which may lose 33: that is GAIN 30; were it 32, GAIN 31, beyond all that count.
+        String b = pool("b", 0, 0, 1984, 9999, 1, 0, 999, 999, 0);
+        k = Check.told("canal gives 0;" + pool("a", 100, 67, 200, 200, 0, 0, 0, 1, 0) + b);
+        Check.due("gain(2, 0) at 30", k.gain(2, 0), 30);
+        Check.due("gain(2, 1) at 30", k.gain(2, 1), 0);
+        k = Check.told("canal gives 0;" + pool("a", 100, 68, 200, 200, 0, 0, 0, 1, 0) + b);
+        Check.due("gain(2, 0) beyond 30", k.gain(2, 0), 1);
+        Check.due("gain(2, 1) beyond 30", k.gain(2, 1), 1);
     }
 
     private static void bestByHand() {
@@ -502,6 +541,11 @@ public final class PromiseTest {
         k = Check.told("canal gives 50;" + pool("a", 0, 9, 9, 90, 0, 0, 20, 3, 0));
         Check.due("best(0, 3, 0) by threes", k.best(0, 3, 0), 6);
         Check.due("best(0, 3, 1) by threes", k.best(0, 3, 1), 2);
+        // 10, 20, 30, 40 pass: 100 are there behind the fifth STEP, and by nothing less.
+        k = Check.told("canal gives 99;" + pool("a", 0, 100, 100, 900, 0, 0, 90, 10, 0));
+        Check.due("best(0, 5, 0) by tens", k.best(0, 5, 0), 40);
+        Check.due("best(0, 5, 1) by tens", k.best(0, 5, 1), 4);
+        Check.due("best(0, 40, 1) is told", k.best(0, 40, 1) >= 0, true);
     }
 
     private static void oneMoreOrder() {
@@ -540,6 +584,9 @@ public final class PromiseTest {
         Check.due("fits with 16", k.fits(0, 1), -1);
         k.cancel(0);
         Check.due("fits with 15", k.fits(0, 1), 0);
+        k = Check.told("canal gives 0;" + pool("a", 9999, 0, 9999, 9999, 0, 0, 0, 1, 0) + "outlet x at a takes 5;");
+        Check.due("fits(0, 99)", k.fits(0, 99), 0);
+        Check.due("fits(0, 100)", k.fits(0, 100), -1);
     }
 
     private static void seenAndLeaks() {
@@ -575,7 +622,13 @@ public final class PromiseTest {
         // AHEAD is from now on, whenever it was SEEN; undo lets it stay.
         Check.see(k, 0, 1, 47);
         k.steps(1);
+        Check.due("tells later", k.tells(1), 1);
         Check.due("leaks later", k.leaks(0), 0);
+        k.set(1, 0, 1);
+        k.steps(1);
+        Check.due("tells when none fits", k.tells(0), -1);
+        k.undo();
+        k.undo();
         k.undo();
         Check.due("has(7) undone", k.has(7), 1);
         Check.due("leaks undone", k.leaks(0), 3);
@@ -584,7 +637,24 @@ public final class PromiseTest {
         Check.see(k, 0, 1, 46, 2, 50);
         Check.due("leaks with a gate", k.leaks(-1), 1);
         Check.due("leaks(0) with a gate", k.leaks(0), 4);
+        lastStepTells();
         wrongSight();
+    }
+
+    /** Water passes five GATES, 9 STEPS each but the last, and arrives in the 40th STEP: only then VOLUMES differ. */
+    private static void lastStepTells() {
+        StringBuilder text = new StringBuilder("canal gives 20;");
+        for (char name = 'a'; name <= 'e'; name++) {
+            text.append(pool("" + name, 0, 0, 90, 90, name == 'e' ? 3 : 9, 0, 20, 20, 20));
+        }
+        CanalKeeper k = Check.told(text.toString());
+        for (int gate = 0; gate < 5; gate++) {
+            k.hand(gate, 20);
+        }
+        Check.see(k, 4, 1, 0);
+        Check.due("leaks(-1) of all", k.leaks(-1), 41);
+        Check.due("tells(0) at 40", k.tells(0), 40);
+        Check.due("tells(1) at 40", k.tells(1), 21);
     }
 
     private static void wrongSight() {
@@ -611,6 +681,7 @@ public final class PromiseTest {
         CanalKeeper k = Check.told(ONE);
         Check.due("steps(0)", k.steps(0), -1);
         Check.due("steps(101)", k.steps(101), -1);
+        Check.due("chance(61)", k.chance(61), -1);
         Check.due("steps(MIN)", k.steps(MIN), -1);
         Check.due("steps(MAX)", k.steps(MAX), -1);
         for (int i = 1; i <= 99; i++) {
@@ -621,10 +692,12 @@ public final class PromiseTest {
         Check.due("chance(40) beyond", k.chance(40), -1);
         Check.due("chance(0)", k.chance(0), -1);
         Check.due("chance(61)", k.chance(61), -1);
+        Check.due("chance(39)", k.chance(39), 9999);
+        k.undo();
         Check.due("steps(39)", k.steps(39), 9999);
         Check.due("steps(1) beyond", k.steps(1), -1);
         Check.due("chance(1) beyond", k.chance(1), -1);
-        Check.due("status(2)", k.status(2), 10);
+        Check.due("status(2)", k.status(2), 11);
         Check.due("later at the end", k.later(0, 200) >= 0, true);
         Check.due("ask at the end", k.ask(0, 9999, 99), 1);
         Check.due("ask behind the end", k.ask(0, 10000, 1), -1);
@@ -697,7 +770,11 @@ public final class PromiseTest {
         for (int i = 3; i < 16; i++) {
             Check.due("ask " + i, k.ask(0, 50, 1), i);
         }
+        int acts = k.has(8);
+        int refused = k.status(3);
         Check.due("ask with 16", k.ask(0, 50, 1), -1);
+        Check.due("that is no ACT", k.has(8), acts);
+        Check.due("that is refused", k.status(3), refused + 1);
     }
 
     private static void gatesByHand() {
