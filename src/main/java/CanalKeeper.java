@@ -66,6 +66,9 @@ public final class CanalKeeper {
     private static final int SHORT = 6;
     private static final int SUMS = 7;
 
+    /** Above every count and every key that can be. */
+    private static final int FAR_ABOVE = 1000000000;
+
     private static final int AHEAD = 200;
     private static final int TOLD = 40;
     private static final int ALARM_NUMBERS = 3;
@@ -846,7 +849,7 @@ public final class CanalKeeper {
         }
 
         int countEvents(int step) {
-            return countKeysBelow(Integer.MAX_VALUE, step);
+            return countKeysBelow(FAR_ABOVE, step);
         }
 
         /** No two EVENTS have one key, so the k-th is the one with k keys below its own. */
@@ -1328,7 +1331,7 @@ public final class CanalKeeper {
 
         void chooseGain(Works ofWorks, Moment from, int n) {
             look(ofWorks, from, n);
-            times = Integer.MAX_VALUE;
+            times = FAR_ABOVE;
             for (int gain = 1; gain <= GAINS; gain++) {
                 lookAgain();
                 water.gain = gain;
@@ -1338,7 +1341,7 @@ public final class CanalKeeper {
 
         void chooseHand(Works ofWorks, Moment from, int gate, int n) {
             look(ofWorks, from, n);
-            times = Integer.MAX_VALUE;
+            times = FAR_ABOVE;
             // What the GATE can't reach in these STEPS is like the highest that it can.
             int reached = start.water.opening[gate] + works.told[BY][gate] * n;
             for (int wanted = 0; wanted <= Math.min(works.told[MOST][gate], reached); wanted++) {
@@ -1448,7 +1451,7 @@ public final class CanalKeeper {
 
         int telling() {
             int first = 1;
-            int fewest = Integer.MAX_VALUE;
+            int fewest = FAR_ABOVE;
             for (int i = 1; i <= SEEN_STEPS; i++) {
                 int left = mostAlike(i);
                 if (left < fewest) {

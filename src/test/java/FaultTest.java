@@ -1,7 +1,7 @@
 import java.util.Random;
 
 /** Promises 2 to 5: the tape, texts with their FAULTS. A '^' stands where the FAULT is due, and is taken out. */
-public final class FaultTest {
+public final class FaultTest extends Check {
     private static final String HEAD = "canal gives 5;";
     private static final String POOL = "pool a holds 1 low 0 high 5 crest 9 delay 0 leak 0 gate 5 by 1 open 0;";
     private static final String OUTLETS = "outlet x at a takes 1;outlet y at a takes 2;";
@@ -19,41 +19,32 @@ public final class FaultTest {
         tooMany();
         whatStays();
         manySpoiltTexts();
-        Check.finish();
+        finish();
     }
 
     private static void tapes() {
         CanalKeeper k = new CanalKeeper();
         for (int i = 1; i <= 80; i++) {
-            Check.due("feed " + i, k.feed(0, 0, 0, 0, 0), 20 * i);
+            due("feed " + i, k.feed(0, 0, 0, 0, 0), 20 * i);
         }
-        Check.due("feed beyond 1600", k.feed(0, 0, 0, 0, 0), -1);
-        Check.due("status(0)", k.status(0), 1);
-        Check.due("end(1600)", k.end(1600), true);
-        Check.due("end(1601)", k.end(1601), false);
-        Check.due("end(-1)", k.end(-1), false);
-        Check.due("end(MIN)", k.end(Integer.MIN_VALUE), false);
-        Check.due("end(1581)", k.end(1581), true);
-        Check.due("feed beyond 1600 from 1581", k.feed(0, 0, 0, 0, 0), -1);
-        Check.due("end(1580)", k.end(1580), true);
-        Check.due("feed to 1600", k.feed(0, 0, 0, 0, 0), 1600);
-        Check.due("end(0)", k.end(0), true);
-        Check.due("end(1)", k.end(1), false);
-        Check.due("status(0)", k.status(0), 6);
+        due("feed beyond 1600", k.feed(0, 0, 0, 0, 0), -1);
+        due("status(0)", k.status(0), 1);
+        due("end(1600)", k.end(1600), true);
+        due("end(1601)", k.end(1601), false);
+        due("end(-1)", k.end(-1), false);
+        due("end(MIN)", k.end(Integer.MIN_VALUE), false);
+        due("end(1581)", k.end(1581), true);
+        due("feed beyond 1600 from 1581", k.feed(0, 0, 0, 0, 0), -1);
+        due("end(1580)", k.end(1580), true);
+        due("feed to 1600", k.feed(0, 0, 0, 0, 0), 1600);
+        due("end(0)", k.end(0), true);
+        due("end(1)", k.end(1), false);
+        due("status(0)", k.status(0), 6);
         // Bytes above 127 are bytes like others, the highest of each number first.
-        k = Check.told(ALL);
-        Check.due("feed", k.feed(0x0180ff00, 0, 0, 0, 0), 20);
-        Check.due("end(3)", k.end(3), true);
-        Check.due("see(0)", k.see(0), 1);
-    }
-
-    private static void whole(String text, int statements) {
-        CanalKeeper k = new CanalKeeper();
-        Check.tape(k, text);
-        Check.due("canal() of " + text, k.canal(), statements);
-        Check.due("fault(0) of " + text, k.fault(0), 0);
-        Check.due("fault(1) of " + text, k.fault(1), -1);
-        Check.due("status(1) of " + text, k.status(1), 0);
+        k = told(ALL);
+        due("feed", k.feed(0x0180ff00, 0, 0, 0, 0), 20);
+        due("end(3)", k.end(3), true);
+        due("see(0)", k.see(0), 1);
     }
 
     private static void wholeTexts() {
@@ -66,22 +57,9 @@ public final class FaultTest {
         whole(ALL + "turns 1 x,y;turns 30 y , x;", 6);
         whole(ALL + "outlet v at a takes 9;outlet w at a takes 9;outlet p at a takes 9;outlet q at a takes 99;"
             + "turns 3 x,y,v,w,p,q;", 9);
-        CanalKeeper k = Check.told("canal gives 7;keep 5;keep 9;");
-        Check.due("the last keep counts", k.has(5), 9);
-        Check.due("gives", k.has(4), 7);
-    }
-
-    private static void wrong(int kind, String marked) {
-        int place = marked.indexOf('^');
-        String text = marked.replace("^", "");
-        CanalKeeper k = new CanalKeeper();
-        Check.tape(k, text);
-        Check.due("canal() of " + marked, k.canal(), -1);
-        Check.due("fault(0) of " + marked, k.fault(0), kind);
-        Check.due("fault(1) of " + marked, k.fault(1), place);
-        Check.due("fault(2) of " + marked, k.fault(2), -1);
-        Check.due("fault(-1) of " + marked, k.fault(-1), -1);
-        Check.due("status(1) of " + marked, k.status(1), 1);
+        CanalKeeper k = told("canal gives 7;keep 5;keep 9;");
+        due("the last keep counts", k.has(5), 9);
+        due("gives", k.has(4), 7);
     }
 
     private static void textsThatGoWrong() {
@@ -141,7 +119,7 @@ public final class FaultTest {
         wrong(1, HEAD + "^\0");
     }
 
-    private static void pool(int kind, String numbers) {
+    private static void poolWith(int kind, String numbers) {
         String[] words = {"holds", "low", "high", "crest", "delay", "leak", "gate", "by", "open"};
         String[] n = numbers.split(" ");
         StringBuilder text = new StringBuilder(HEAD).append("pool a");
@@ -156,16 +134,16 @@ public final class FaultTest {
         wrong(2, "canal gives ^9999x");
         wrong(2, HEAD + "keep ^0;");
         wrong(2, HEAD + "keep ^100;");
-        pool(1, "9999^9");
-        pool(1, "0 9999^9");
-        pool(2, "0 5 ^4");
-        pool(2, "0 5 9 ^8");
-        pool(2, "0 5 9 9 ^10");
-        pool(2, "0 5 9 9 9 ^100");
-        pool(2, "0 5 9 9 9 99 ^1000");
-        pool(2, "0 5 9 9 9 99 999 ^0");
-        pool(2, "0 5 9 9 9 99 999 ^1000");
-        pool(2, "0 5 9 9 9 99 10 999 ^11");
+        poolWith(1, "9999^9");
+        poolWith(1, "0 9999^9");
+        poolWith(2, "0 5 ^4");
+        poolWith(2, "0 5 9 ^8");
+        poolWith(2, "0 5 9 9 ^10");
+        poolWith(2, "0 5 9 9 9 ^100");
+        poolWith(2, "0 5 9 9 9 99 ^1000");
+        poolWith(2, "0 5 9 9 9 99 999 ^0");
+        poolWith(2, "0 5 9 9 9 99 999 ^1000");
+        poolWith(2, "0 5 9 9 9 99 10 999 ^11");
         wrong(2, HEAD + POOL + "outlet x at a takes ^0");
         wrong(2, HEAD + POOL + "outlet x at a takes ^100");
         wrong(2, ALL + "order x from ^1000");
@@ -192,14 +170,6 @@ public final class FaultTest {
         // The first along the text counts.
         wrong(2, HEAD + "keep ^0;" + POOL + POOL);
         wrong(3, HEAD + POOL + "pool ^a holds 99999");
-    }
-
-    private static String times(int n, String statement) {
-        StringBuilder text = new StringBuilder();
-        for (int i = 0; i < n; i++) {
-            text.append(statement.replace('#', (char) ('b' + i)));
-        }
-        return text.toString();
     }
 
     private static void tooMany() {
@@ -231,41 +201,41 @@ public final class FaultTest {
     }
 
     private static void whatStays() {
-        CanalKeeper k = Check.told(ALL + "order x from 0 for 5;");
-        Check.due("fault(0)", k.fault(0), 0);
+        CanalKeeper k = told(ALL + "order x from 0 for 5;");
+        due("fault(0)", k.fault(0), 0);
         k.seed(77);
         k.steps(3);
         k.hand(0, 2);
-        Check.see(k, 0, 1, 1);
+        see(k, 0, 1, 1);
         int volume = k.pool(0, 0);
-        Check.tape(k, "canal gives 999;keep 0;");
-        Check.due("canal() with a fault", k.canal(), -1);
-        Check.due("its fault", k.fault(0), 2);
-        Check.due("its place", k.fault(1), 21);
-        Check.due("gives stays", k.has(4), 5);
-        Check.due("STEP stays", k.has(3), 3);
-        Check.due("VOLUME stays", k.pool(0, 0), volume);
-        Check.due("SEEN stays", k.has(7), 1);
-        Check.due("ACTS stay", k.has(8), 2);
-        Check.due("by hand stays", k.gate(0, 4), 2);
-        Check.due("the tape went", k.feed(0, 0, 0, 0, 0), 20);
+        tape(k, "canal gives 999;keep 0;");
+        due("canal() with a fault", k.canal(), -1);
+        due("its fault", k.fault(0), 2);
+        due("its place", k.fault(1), 21);
+        due("gives stays", k.has(4), 5);
+        due("STEP stays", k.has(3), 3);
+        due("VOLUME stays", k.pool(0, 0), volume);
+        due("SEEN stays", k.has(7), 1);
+        due("ACTS stay", k.has(8), 2);
+        due("by hand stays", k.gate(0, 4), 2);
+        due("the tape went", k.feed(0, 0, 0, 0, 0), 20);
         k.end(0);
-        Check.tape(k, ALL);
-        Check.due("canal() anew", k.canal(), 4);
-        Check.due("no fault", k.fault(0), 0);
-        Check.due("no place", k.fault(1), -1);
-        Check.due("STEP", k.has(3), 0);
-        Check.due("VOLUME", k.pool(0, 0), 1);
-        Check.due("ORDERS", k.has(2), 0);
-        Check.due("KEPT", k.has(6), 0);
-        Check.due("SEEN", k.has(7), 0);
-        Check.due("ACTS", k.has(8), 0);
-        Check.due("by hand", k.gate(0, 4), -1);
-        Check.due("the seed stays", k.has(9), 77);
-        Check.due("undo()", k.undo(), false);
-        Check.due("flow", k.flow(0, 1, 0), -1);
-        Check.due("took", k.account(1), 0);
-        Check.due("the tape went", k.feed(0, 0, 0, 0, 0), 20);
+        tape(k, ALL);
+        due("canal() anew", k.canal(), 4);
+        due("no fault", k.fault(0), 0);
+        due("no place", k.fault(1), -1);
+        due("STEP", k.has(3), 0);
+        due("VOLUME", k.pool(0, 0), 1);
+        due("ORDERS", k.has(2), 0);
+        due("KEPT", k.has(6), 0);
+        due("SEEN", k.has(7), 0);
+        due("ACTS", k.has(8), 0);
+        due("by hand", k.gate(0, 4), -1);
+        due("the seed stays", k.has(9), 77);
+        due("undo()", k.undo(), false);
+        due("flow", k.flow(0, 1, 0), -1);
+        due("took", k.account(1), 0);
+        due("the tape went", k.feed(0, 0, 0, 0, 0), 20);
     }
 
     private static void manySpoiltTexts() {
@@ -273,11 +243,11 @@ public final class FaultTest {
             String text = new Texts(new Random(i)).spoilt();
             CanalKeeper k = new CanalKeeper();
             Model m = new Model();
-            Check.tape(k, text);
+            tape(k, text);
             m.tape = text;
-            Check.due("canal() of " + text, k.canal(), m.canal());
-            Check.due("fault(0) of " + text, k.fault(0), m.fault(0));
-            Check.due("fault(1) of " + text, k.fault(1), m.fault(1));
+            due("canal() of " + text, k.canal(), m.canal());
+            due("fault(0) of " + text, k.fault(0), m.fault(0));
+            due("fault(1) of " + text, k.fault(1), m.fault(1));
         }
     }
 }
