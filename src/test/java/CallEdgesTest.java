@@ -160,6 +160,7 @@ public final class CallEdgesTest extends Check {
         due("feed behind 19", k.feed(0, 0, 0, 0, 0), 39);
         due("end(0) of 39", k.end(0), true);
         due("feed behind 0", k.feed(0, 0, 0, 0, 0), 20);
+        textsCutOff();
         sentence("false, refused (0), if it has not so many, or n is below 0.");
         denied("end(21) of 20", k, 0, () -> k.end(21));
         denied("end(MAX)", k, 0, () -> k.end(MAX));
@@ -168,6 +169,22 @@ public final class CallEdgesTest extends Check {
         due("feed behind 20", k.feed(0, 0, 0, 0, 0), 40);
         k.end(0);
         denied("end(1) of 0", k, 0, () -> k.end(1));
+    }
+
+    /** What was on the tape behind its end is not read, whatever it would say. */
+    private static void textsCutOff() {
+        String text = "canal gives 5;keep 3;" + pool("a", 1, 0, 5, 9, 0, 0, 5, 1, 0) + "outlet x at a takes 1;"
+            + "outlet y at a takes 2;order x from 1 for 2;turns 2 x,y;";
+        for (int length = 0; length <= text.length(); length++) {
+            CanalKeeper cut = new CanalKeeper();
+            CanalKeeper alone = new CanalKeeper();
+            tape(cut, text);
+            cut.end(length);
+            tape(alone, text.substring(0, length));
+            due("canal() of " + length, cut.canal(), alone.canal());
+            due("fault(0) of " + length, cut.fault(0), alone.fault(0));
+            due("fault(1) of " + length, cut.fault(1), alone.fault(1));
+        }
     }
 
     private static void tapeGone(CanalKeeper k) {
@@ -232,6 +249,7 @@ public final class CallEdgesTest extends Check {
         old.steps(3);
         fresh.steps(3);
         due("STEPS go as in a new object", state(old).equals(state(fresh)), true);
+        canalUponCanals();
         sentence("the seed stays.");
         CanalKeeper s = new CanalKeeper();
         s.seed(77);
@@ -243,6 +261,52 @@ public final class CallEdgesTest extends Check {
         tape(s, ONE);
         s.canal();
         due("behind two draws", s.has(9), x);
+    }
+
+    /** Nothing of what was told ahead, with or without a FAULT, shows in a smaller one. */
+    private static void canalUponCanals() {
+        String big = "canal gives 99;keep 9;" + times(8, pool("#", 90, 1, 2, 3, 9, 9, 9, 9, 9)) + times(10, "outlet o# at b "
+            + "takes 9;") + times(8, "order o# from 0 for 99;order ob from 3 for 99;") + "turns 1 ob,oc,od,oe,of,og;"
+            + "turns 3 og,of,oe,od,oc,ob;";
+        String small = DRY + pool("a", 30, 40, 50, 60, 3, 0, 5, 1, 2) + pool("z", 8, 4, 6, 9, 2, 1, 5, 1, 2)
+            + "outlet x at a takes 2;outlet y at z takes 1;order y from 3 for 2;turns 2 y,x;";
+        for (int wrong = 0; wrong <= 1; wrong++) {
+            CanalKeeper k = told(big);
+            k.hand(0, 1);
+            see(k, 0, 1, 1);
+            k.chance(20);
+            tape(k, big);
+            due("canal()", k.canal(), 38);
+            k.steps(50);
+            if (wrong == 1) {
+                tape(k, big + "keep 0;");
+                due("canal() with a FAULT", k.canal(), NONE);
+            }
+            tape(k, small);
+            due("canal()", k.canal(), 7);
+            k.seed(1);
+            CanalKeeper fresh = told(small);
+            due("all as told", state(k).equals(state(fresh)), true);
+            due("what is AHEAD, as told", looks(k).equals(looks(fresh)), true);
+            k.steps(7);
+            fresh.steps(7);
+            due("STEPS go as told", state(k).equals(state(fresh)), true);
+            due("what is AHEAD of these", looks(k).equals(looks(fresh)), true);
+        }
+    }
+
+    private static String looks(CanalKeeper k) {
+        StringBuilder all = new StringBuilder();
+        for (int i = 0; i < 9; i++) {
+            for (int n = 0; n < 20; n++) {
+                all.append(k.load(i, n)).append(' ').append(k.opens(i, n)).append(' ').append(k.later(i, n)).append(' ')
+                    .append(k.opening(i, n)).append(' ').append(k.lacks(i, n)).append(' ');
+            }
+            all.append(k.rank(i)).append(' ').append(k.when(i, 0)).append(' ').append(k.when(i, 2)).append(' ')
+                .append(k.fits(i, 3)).append(' ').append(k.best(i, 5, 0)).append(' ').append(k.best(i, 5, 1)).append(' ');
+        }
+        return all.append(k.least(20)).append(' ').append(k.gain(20, 0)).append(' ').append(k.gain(20, 1)).append(' ')
+            .append(k.leaks(NONE)).append(' ').append(k.tells(0)).toString();
     }
 
     /** state() with the numbers of fault() left out: they are the third of each of the first eleven. */
@@ -360,12 +424,16 @@ public final class CallEdgesTest extends Check {
         named(k, 5, "abz");
         tapeGone(k);
         sentence("is a NAME, byte by byte, nothing else:");
-        for (String name : new String[] {" abz", "abz ", "abz\n", "ab z", "abz;", "ABZ", "abZ", "abz\0", "abz ", "ab"}) {
+        for (String name : new String[] {" abz", "abz ", "abz\n", "ab z", "abz;", "ABZ", "abZ", "abz\0", "abz`", "`abz", "abz{", "ab"}) {
             due("named(0) of " + name, named(k, 0, name), NONE);
         }
         due("a 7th letter", named(k, 0, "zzzzzzz"), NONE);
         due("no byte", named(k, 0, ""), NONE);
         due("no byte, an OUTLET", named(k, 1, ""), NONE);
+        due("a sign ahead of a", named(k, 0, "`"), NONE);
+        tape(k, "abzabz");
+        k.end(3);
+        due("what was behind its end makes no matter", k.named(0), 0);
         sentence("the POOL (kind 0), the OUTLET (1) of that NAME;");
         due("abz", named(k, 0, "abz"), 0);
         due("zzzzzz", named(k, 0, "zzzzzz"), 1);
@@ -538,6 +606,10 @@ public final class CallEdgesTest extends Check {
         k.ask(0, 9999, 9);
         due("at 9998: OPEN at 10007", k.load(0, 9998), 10);
         due("at 9999: not OPEN at 10008", k.load(0, 9999), 3);
+        CanalKeeper eight = told(DRY + times(8, pool("#", 9, 0, 9, 9, 1, 1, 0, 1, 0)) + times(10, "outlet o# at i takes 9;")
+            + times(10, "order o# from 8 for 1;"));
+        row("of eight GATES at 0", i -> eight.load(i, 0), 98, 7, 6, 5, 4, 3, 2, 1, NONE);
+        row("of the last at 6, 7, 8", i -> eight.load(7, 6 + i), 1, 91, 1);
         sentence("NONE when there are none such.");
         outside("load(0, step)", 0, 9999, t -> k.load(0, t), NONE);
         outside("load(gate, 0)", 0, 0, i -> k.load(i, 0), NONE);
@@ -753,6 +825,12 @@ public final class CallEdgesTest extends Check {
         due("opening(0, 200)", k.opening(0, 200), 405);
         due("opening(1, 200)", k.opening(1, 200), 200);
         due("it stays", k.gate(0, 0), 5);
+        // As far as can be: 8 DELAYS of 9 behind 200 STEPS.
+        CanalKeeper far = told(DRY + times(8, pool("#", 9, 9, 9, 9, 9, 0, 99, 99, 0)) + "outlet x at i takes 7;"
+            + "order x from 272 for 1;");
+        due("opening(0, 199) for STEP 272", far.opening(0, 199), 0);
+        due("opening(0, 200) for STEP 272", far.opening(0, 200), 7);
+        due("opening(7, 200) for STEP 272", far.opening(7, 200), 0);
         sentence("NONE likewise.");
         outside("opening(0, n)", 0, 200, n -> k.opening(0, n), NONE);
         outside("opening(gate, 0)", 0, 1, i -> k.opening(i, 0), NONE);
@@ -795,6 +873,7 @@ public final class CallEdgesTest extends Check {
         due("lacks(NONE, 199)", k.lacks(NONE, 199), 97 * 4 + 1 + 98 * 3 + 49 * 4);
         k.steps(3);
         due("what was SHORT is not AHEAD", k.lacks(NONE, 1), 7);
+        row("what was SHORT of each is not AHEAD", i -> k.lacks(i, 1), 4, 3);
         k.undo();
         sentence("of an OUTLET (NONE: of all).");
         row("lacks(outlet, 3)", i -> k.lacks(i, 3), 4, 4);
@@ -822,6 +901,18 @@ public final class CallEdgesTest extends Check {
         late.hand(0, 99);
         due("least(59)", late.least(59), 0);
         due("least(60): CREST 10 can't keep it", late.least(60), NONE);
+        // 5 leak each STEP: only more than 5 fill it up to 10, so that 5 are left for x.
+        late = told("canal gives 1;" + pool("a", 0, 0, 10, 10, 0, 5, 99, 99, 99) + "outlet x at a takes 5;order x from 59 for 1;");
+        late.hand(0, 99);
+        due("least(59) with a LEAK", late.least(59), 0);
+        due("least(60) with a LEAK", late.least(60), 6);
+        // Each STEP 5 go on to b: of 26 there 6 are left at STEP 4, and 10 are taken.
+        CanalKeeper two = told(DRY + pool("a", 26, 0, 99, 99, 0, 0, 5, 5, 5) + pool("b", 0, 0, 99, 99, 0, 0, 5, 5, 5)
+            + "outlet x at a takes 10;order x from 4 for 1;");
+        two.hand(0, 5);
+        two.hand(1, 5);
+        due("least(4) of two POOLS", two.least(4), 0);
+        due("least(5) of two POOLS", two.least(5), 1);
         StringBuilder ten = new StringBuilder();
         for (char name = 'p'; name < 'z'; name++) {
             ten.append("outlet ").append(name).append(" at a takes 99;order ").append(name).append(" from 1 for 1;");
@@ -892,6 +983,11 @@ public final class CallEdgesTest extends Check {
         due("the lower GATE", two.best(1, 2, 0), 10);
         due("the lower GATE, times", two.best(1, 2, 1), 1);
         due("the upper GATE can do nothing", two.best(0, 2, 0), 0);
+        due("b draws 2 in the second STEP, times of a alone", two.best(0, 2, 1), 1);
+        // 10, 20, 30, 40 pass: 100 are there behind the fifth STEP, and by nothing less.
+        CanalKeeper tens = told("canal gives 99;" + pool("a", 0, 100, 100, 900, 0, 0, 90, 10, 0));
+        due("by tens", tens.best(0, 5, 0), 40);
+        due("by tens, times", tens.best(0, 5, 1), 4);
         sentence("of like ones the least (what 0),");
         // 10, 11, 12 are alike.
         CanalKeeper like = told("canal gives 50;" + pool("a", 0, 10, 12, 90, 0, 0, 20, 20, 0));
@@ -931,6 +1027,9 @@ public final class CallEdgesTest extends Check {
         due("11 are not", ten.fits(0, 11), NONE);
         sentence("would leave no more SHORT of all in 200 STEPS AHEAD than without it;");
         harmOfAnother();
+        // The GATE opens for the ORDER, 2 STEPS ahead of it; to open for STEP 1 is the first that it can.
+        CanalKeeper opens = told("canal gives 9;" + pool("a", 0, 0, 1, 99, 2, 0, 9, 9, 0) + "outlet x at a takes 5;");
+        due("what opens for it is counted", opens.fits(0, 4), 3);
         // What is SHORT already, and what will be anyway, is no harm of it.
         CanalKeeper dry = told(DRY + pool("a", 0, 0, 99, 99, 0, 0, 0, 1, 0) + "outlet x at a takes 5;order x from 2 for 3;");
         due("at the same STEPS", dry.fits(0, 3), 2);
@@ -1058,6 +1157,9 @@ public final class CallEdgesTest extends Check {
         due("3: then it arrives", late.tells(0), 3);
         sentence("how many FITS are left at the most (1).");
         due("1", k.tells(1), 1);
+        see(k, 0, 1, 40);
+        due("1 of the only one", k.tells(1), 1);
+        see(k, 0, 40, 0);
         CanalKeeper empty = told(DRY + pool("a", 0, 0, 90, 90, 0, 3, 0, 1, 0));
         see(empty, 0, 1, 0);
         due("41", empty.tells(1), 41);
@@ -1282,6 +1384,7 @@ public final class CallEdgesTest extends Check {
             due("undo() of " + i, k.undo(), true);
             due("all as ahead of " + i, state(k).equals(states[i]), true);
         }
+        undoneWhole();
         sentence("(the seed, what is SEEN stay): true;");
         k.seed(3);
         k.chance(2);
@@ -1314,6 +1417,24 @@ public final class CallEdgesTest extends Check {
         denied("of what was ahead of canal()", k, 4, k::undo);
         CanalKeeper none = new CanalKeeper();
         denied("without a canal", none, 4, none::undo);
+    }
+
+    /** All 40 ALARMS, and all flows of 8 POOLS in 40 STEPS, are put back. */
+    private static void undoneWhole() {
+        CanalKeeper alarms = everyOther();
+        alarms.steps(100);
+        String state = state(alarms);
+        alarms.steps(51);
+        due("undo()", alarms.undo(), true);
+        due("all ALARMS as they were", state(alarms).equals(state), true);
+        CanalKeeper flows = told("canal gives 50;" + times(8, pool("#", 40, 30, 50, 60, 1, 1, 30, 3, 9)));
+        flows.chance(60);
+        flows.seed(7);
+        state = state(flows);
+        flows.chance(59);
+        due("undo()", flows.undo(), true);
+        flows.seed(7);
+        due("all flows as they were", state(flows).equals(state), true);
     }
 
     /** One ACT of each kind, without a DRAW: the seed would stay, and state() has it. */

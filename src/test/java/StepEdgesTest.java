@@ -499,9 +499,15 @@ public final class StepEdgesTest extends Check {
         cause(6, 1, NONE, over + pool("b", 0, 0, 4, 9, 0, 0, 0, 1, 0));
         cause(6, 1, 0, over + pool("b", 0, 0, 4, 9, 0, 0, 9, 1, 2));
         cause(6, 1, NONE, over + pool("b", 9, 0, 4, 9, 0, 0, 0, 1, 0));
+        cause(6, 1, NONE, DRY + pool("a", 6, 0, 5, 5, 0, 0, 0, 1, 0) + pool("b", 4, 0, 4, 9, 0, 0, 0, 1, 0));
         // What goes over from it is not what came, and at the CREST above nothing does.
         cause(8, 0, NONE, DRY + pool("a", 30, 0, 10, 20, 0, 0, 0, 1, 0));
         cause(8, 1, NONE, DRY + pool("a", 5, 0, 5, 5, 0, 0, 9, 9, 0) + pool("b", 5, 0, 4, 9, 0, 0, 0, 1, 0));
+        // 1 goes over to b in STEP 0; in STEP 1 its GATE passes 5, as it is told.
+        CanalKeeper k = told(DRY + pool("a", 6, 0, 5, 5, 0, 0, 0, 1, 0) + pool("b", 0, 0, 4, 99, 0, 0, 5, 5, 0));
+        k.hand(1, 5);
+        k.steps(2);
+        row("what went over a STEP ago is no CAUSE", what -> k.alarm(0, what), 1, 1, 8);
         sentence("7 its OPENING is not what is WANTED;");
         cause(7, 0, NONE, DRY + pool("a", 10, 0, 5, 20, 0, 0, 9, 1, 2));
         cause(8, 0, NONE, DRY + pool("a", 10, 0, 5, 20, 0, 0, 9, 2, 2));

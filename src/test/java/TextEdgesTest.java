@@ -315,6 +315,7 @@ public final class TextEdgesTest extends Check {
         wrong(1, HEAD + "pool ^12 holds 1");
         wrong(1, HEAD + "pool a ^hold 1");
         wrong(1, HEAD + "keep 5 ^keep 5;");
+        everyLetterCounts();
         sentence("where a NAME is asked, an OWN WORD so,");
         wrong(1, HEAD + "pool ^low holds 1");
         wrong(1, ALL + "outlet z at ^turns takes 1;");
@@ -334,6 +335,18 @@ public final class TextEdgesTest extends Check {
         wrong(1, HEAD + "pool a holds 1 low 0000^00");
         wrong(1, ALL + "order x from 1 for 0000^1;");
         wrong(1, ALL + "turns 0000^1 x,y;");
+    }
+
+    /** NAMES have one letter here, so that whatever has more is a word of the text. */
+    private static void everyLetterCounts() {
+        String text = HEAD + "keep 3;" + POOL + OUTLETS + "order x from 1 for 2;turns 2 x,y;";
+        for (int i = 0; i < text.length(); i++) {
+            String start = text.substring(0, i).replaceAll("[a-z]+$", "");
+            String word = text.substring(start.length()).replaceAll("(?s)[^a-z].*", "");
+            if (Character.isLetter(text.charAt(i)) && word.length() > 1) {
+                wrong(1, start + "^" + text.substring(start.length(), i) + "z" + text.substring(i + 1));
+            }
+        }
     }
 
     /** Each beginning of a text whose NAMES and numbers have one byte: a word is whole only with its last letter. */
