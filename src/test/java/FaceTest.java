@@ -102,7 +102,18 @@ public final class FaceTest {
             }
             Check.due("the source has " + word, m.find(), false);
         }
+        libraryCalls(code);
         methodsStayShort(code);
+    }
+
+    /** Rule 4: of the library only what it lists, as far as the class has use for it. */
+    private static void libraryCalls(String code) {
+        Set<String> listed = Set.of("Math.max", "Math.min", "Math.abs", "Arrays.fill", "System.arraycopy");
+        Matcher m = Pattern.compile("\\b(?:Math|Arrays|System|Integer|Long|String|List|ArrayList)\\.\\w+").matcher(code);
+        while (m.find()) {
+            Check.due("the source has " + m.group(), code.startsWith("import", code.lastIndexOf('\n', m.start()) + 1)
+                || listed.contains(m.group()), true);
+        }
     }
 
     private static void methodsStayShort(String code) {
