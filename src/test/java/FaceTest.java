@@ -48,6 +48,15 @@ public final class FaceTest {
             }
         }
         Check.due("the face " + got, got.equals(want), true);
+        Set<String> constants = new TreeSet<>();
+        for (Field f : CanalKeeper.class.getDeclaredFields()) {
+            if (!Modifier.isPrivate(f.getModifiers())) {
+                constants.add(Modifier.toString(f.getModifiers()) + " " + f.getType() + " " + f.getName());
+            }
+        }
+        Check.due("the constants " + constants, constants.equals(
+            Set.of("public static final int NONE", "public static final int NOTHING")), true);
+        Check.due("all constructors", CanalKeeper.class.getDeclaredConstructors().length, 1);
         Check.due("constructors", CanalKeeper.class.getConstructors().length, 1);
         Check.due("final", Modifier.isFinal(CanalKeeper.class.getModifiers()), true);
     }
